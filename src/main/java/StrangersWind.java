@@ -25,9 +25,9 @@ public final class StrangersWind {
     private final Town[] keptTowns = new Town[KEEPS];
     private final boolean[] isKept = new boolean[KEEPS];
     private final Reader reader = new Reader();
-    private final Lettings lettings = new Lettings();
-    private final Orders orders = new Orders();
-    private final Beard beard = new Beard();
+    private final Lettings lettings = new Lettings(here);
+    private final Orders orders = new Orders(here);
+    private final Beard beard = new Beard(here);
     private final int[] findingCounts = new int[SIZE + 1];
     private int latestFinding = 0;
     private int toldAside = 0;
@@ -332,8 +332,9 @@ public final class StrangersWind {
         int farthest = here.wound;
         int by = 0;
         for (int set = 1; set < here.sets(); set++) {
-            if ((set & here.in) == 0 && here.woundBySet(set) > farthest) {
-                farthest = here.woundBySet(set);
+            int far = here.woundBySet(set);
+            if ((set & here.in) == 0 && far > farthest) {
+                farthest = far;
                 by = set;
             }
         }
@@ -348,7 +349,7 @@ public final class StrangersWind {
         if (here.size == 0) {
             return STATE;
         }
-        orders.search(here);
+        orders.search();
         fillRow(r, orders.best, orders.due);
         return orders.farthest;
     }
@@ -362,7 +363,7 @@ public final class StrangersWind {
         if (here.size == 0) {
             return STATE;
         }
-        lettings.search(here, n, c);
+        lettings.search(n, c);
         tell(lettings.ways, 1);
         toldAside = lettings.leastBread;
         return 1;
@@ -375,7 +376,7 @@ public final class StrangersWind {
         if (here.size == 0) {
             return STATE;
         }
-        lettings.search(here, n, c);
+        lettings.search(n, c);
         if (lettings.leastBread == NONE) {
             return NONE;
         }
@@ -390,7 +391,7 @@ public final class StrangersWind {
         if (here.size == 0) {
             return STATE;
         }
-        lettings.search(here, n, 0);
+        lettings.search(n, 0);
         toldAside = lettings.fewest;
         return lettings.mostHours;
     }
@@ -425,7 +426,7 @@ public final class StrangersWind {
         if (here.size == 0) {
             return STATE;
         }
-        beard.search(here, v);
+        beard.search(v);
         tell(beard.sets, 1);
         toldAside = beard.first;
         return 1;
@@ -756,7 +757,7 @@ public final class StrangersWind {
         if (here.size == 0) {
             return STATE;
         }
-        beard.search(here, v);
+        beard.search(v);
         return beard.sets == 0 ? found(NOUGHT) : 0;
     }
 
@@ -1057,15 +1058,12 @@ public final class StrangersWind {
 
     /** Reads a TOWN from a TEXT; where a part can't be read, place stays at the FAULT. */
     static final class Reader {
-        private byte[] bytes = null;
+        private byte[] bytes = new byte[0];
         private int size = 0;
         private int place = 0;
 
         /** The FAULT, or NONE. */
         int readTown(byte[] from, int length, Town into) {
-            if (from == null || length < 0 || length > from.length) {
-                return 0;
-            }
             bytes = from;
             size = length;
             place = 0;
@@ -1164,7 +1162,7 @@ public final class StrangersWind {
 
     /** All LETTINGS of some HOURS: those that lead to a told hour, and those in which the CLOCK goes longest. */
     static final class Lettings {
-        private Town town = null;
+        private final Town town;
         private int hours = 0;
         private int told = 0;
         private final int[] tried = new int[LETTING_HOURS];
@@ -1174,15 +1172,18 @@ public final class StrangersWind {
         int mostHours = 0;
         int fewest = 0;
 
-        void search(Town of, int n, int c) {
-            town = of;
+        Lettings(Town town) {
+            this.town = town;
+        }
+
+        void search(int n, int c) {
             hours = n;
             told = c;
             ways = 0;
             leastBread = NONE;
             mostHours = -1;
             fewest = 0;
-            letIn(this, 0, of.wound, of.in, 0, 0);
+            letIn(this, 0, town.wound, town.in, 0, 0);
         }
 
         /** Ahead of HOUR h, so far wound with those that are in, bread eaten, HOURS that the CLOCK went. */
@@ -1223,17 +1224,20 @@ public final class StrangersWind {
 
     /** All orders in which those not IN may come. */
     static final class Orders {
-        private Town town = null;
+        private final Town town;
         private final int[] tried = new int[STRANGERS];
         final int[] best = new int[STRANGERS];
         int due = 0;
         int farthest = 0;
 
-        void search(Town of) {
-            town = of;
-            due = Integer.bitCount(of.notIn());
+        Orders(Town town) {
+            this.town = town;
+        }
+
+        void search() {
+            due = Integer.bitCount(town.notIn());
             farthest = -1;
-            lineUp(this, 0, of.wound, of.in);
+            lineUp(this, 0, town.wound, town.in);
         }
 
         private static void lineUp(Orders all, int k, int wound, int in) {
@@ -1256,6 +1260,7 @@ public final class StrangersWind {
 
     /** The sets of those not IN behind which an HOUR STRIKES a number. */
     static final class Beard {
+        private final Town town;
         int sets = 0;
         int first = NONE;
         int inAll = 0;
@@ -1264,7 +1269,11 @@ public final class StrangersWind {
         int most = 0;
         final int[] with = new int[STRANGERS];
 
-        void search(Town town, int strikes) {
+        Beard(Town town) {
+            this.town = town;
+        }
+
+        void search(int strikes) {
             sets = 0;
             first = NONE;
             inAll = town.notIn();
