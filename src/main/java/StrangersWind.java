@@ -25,9 +25,9 @@ public final class StrangersWind {
     private final Town[] keptTowns = new Town[KEEPS];
     private final boolean[] isKept = new boolean[KEEPS];
     private final Reader reader = new Reader();
-    private final Lettings lettings = new Lettings(here);
-    private final Orders orders = new Orders(here);
-    private final Beard beard = new Beard(here);
+    private final Lettings lettings = new Lettings();
+    private final Orders orders = new Orders();
+    private final Beard beard = new Beard();
     private final int[] findingCounts = new int[SIZE + 1];
     private int latestFinding = 0;
     private int toldAside = 0;
@@ -171,7 +171,9 @@ public final class StrangersWind {
         }
         draft.begin();
         here.takeFrom(draft);
-        Arrays.fill(isKept, false);
+        for (int k = 0; k < KEEPS; k++) {
+            isKept[k] = false;
+        }
         return here.size;
     }
 
@@ -349,7 +351,7 @@ public final class StrangersWind {
         if (here.size == 0) {
             return STATE;
         }
-        orders.search();
+        orders.search(here);
         fillRow(r, orders.best, orders.due);
         return orders.farthest;
     }
@@ -363,7 +365,7 @@ public final class StrangersWind {
         if (here.size == 0) {
             return STATE;
         }
-        lettings.search(n, c);
+        lettings.search(here, n, c);
         tell(lettings.ways, 1);
         toldAside = lettings.leastBread;
         return 1;
@@ -376,7 +378,7 @@ public final class StrangersWind {
         if (here.size == 0) {
             return STATE;
         }
-        lettings.search(n, c);
+        lettings.search(here, n, c);
         if (lettings.leastBread == NONE) {
             return NONE;
         }
@@ -391,7 +393,7 @@ public final class StrangersWind {
         if (here.size == 0) {
             return STATE;
         }
-        lettings.search(n, 0);
+        lettings.search(here, n, 0);
         toldAside = lettings.fewest;
         return lettings.mostHours;
     }
@@ -426,7 +428,7 @@ public final class StrangersWind {
         if (here.size == 0) {
             return STATE;
         }
-        beard.search(v);
+        beard.search(here, v);
         tell(beard.sets, 1);
         toldAside = beard.first;
         return 1;
@@ -757,7 +759,7 @@ public final class StrangersWind {
         if (here.size == 0) {
             return STATE;
         }
-        beard.search(v);
+        beard.search(here, v);
         return beard.sets == 0 ? found(NOUGHT) : 0;
     }
 
@@ -1162,7 +1164,6 @@ public final class StrangersWind {
 
     /** All LETTINGS of some HOURS: those that lead to a told hour, and those in which the CLOCK goes longest. */
     static final class Lettings {
-        private final Town town;
         private int hours = 0;
         private int told = 0;
         private final int[] tried = new int[LETTING_HOURS];
@@ -1172,40 +1173,35 @@ public final class StrangersWind {
         int mostHours = 0;
         int fewest = 0;
 
-        Lettings(Town town) {
-            this.town = town;
-        }
-
-        void search(int n, int c) {
+        void search(Town town, int n, int c) {
             hours = n;
             told = c;
             ways = 0;
             leastBread = NONE;
             mostHours = -1;
             fewest = 0;
-            letIn(this, 0, town.wound, town.in, 0, 0);
+            letIn(this, town, 0, town.wound, town.in, 0, 0);
         }
 
         /** Ahead of HOUR h, so far wound with those that are in, bread eaten, HOURS that the CLOCK went. */
-        private static void letIn(Lettings all, int h, int wound, int in, int eaten, int went) {
+        private static void letIn(Lettings all, Town town, int h, int wound, int in, int eaten, int went) {
             if (h >= all.hours || h >= LETTING_HOURS) {
-                all.weigh(in, eaten, went);
+                all.weigh(town, in, eaten, went);
                 return;
             }
-            Town town = all.town;
             all.tried[h] = NONE;
-            letIn(all, h + 1, town.woundNext(wound), in, eaten, went + (wound > 0 ? 1 : 0));
+            letIn(all, town, h + 1, town.woundNext(wound), in, eaten, went + (wound > 0 ? 1 : 0));
             for (int i = 0; i < town.size; i++) {
                 if ((in >> i & 1) == 0) {
                     all.tried[h] = i;
                     int then = town.woundBy(i, wound, in);
                     int on = went + (then > 0 ? 1 : 0);
-                    letIn(all, h + 1, town.woundNext(then), in | 1 << i, eaten + town.breads[i], on);
+                    letIn(all, town, h + 1, town.woundNext(then), in | 1 << i, eaten + town.breads[i], on);
                 }
             }
         }
 
-        private void weigh(int in, int eaten, int went) {
+        private void weigh(Town town, int in, int eaten, int went) {
             int guests = Integer.bitCount(in) - Integer.bitCount(town.in);
             if (went > mostHours || went == mostHours && guests < fewest) {
                 mostHours = went;
@@ -1224,23 +1220,18 @@ public final class StrangersWind {
 
     /** All orders in which those not IN may come. */
     static final class Orders {
-        private final Town town;
         private final int[] tried = new int[STRANGERS];
         final int[] best = new int[STRANGERS];
         int due = 0;
         int farthest = 0;
 
-        Orders(Town town) {
-            this.town = town;
-        }
-
-        void search() {
+        void search(Town town) {
             due = Integer.bitCount(town.notIn());
             farthest = -1;
-            lineUp(this, 0, town.wound, town.in);
+            lineUp(this, town, 0, town.wound, town.in);
         }
 
-        private static void lineUp(Orders all, int k, int wound, int in) {
+        private static void lineUp(Orders all, Town town, int k, int wound, int in) {
             if (k >= all.due || k >= STRANGERS) {
                 // Only a farther one takes its place: the first by numbers stays.
                 if (wound > all.farthest) {
@@ -1249,10 +1240,10 @@ public final class StrangersWind {
                 }
                 return;
             }
-            for (int i = 0; i < all.town.size; i++) {
+            for (int i = 0; i < town.size; i++) {
                 if ((in >> i & 1) == 0) {
                     all.tried[k] = i;
-                    lineUp(all, k + 1, all.town.woundBy(i, wound, in), in | 1 << i);
+                    lineUp(all, town, k + 1, town.woundBy(i, wound, in), in | 1 << i);
                 }
             }
         }
@@ -1260,7 +1251,6 @@ public final class StrangersWind {
 
     /** The sets of those not IN behind which an HOUR STRIKES a number. */
     static final class Beard {
-        private final Town town;
         int sets = 0;
         int first = NONE;
         int inAll = 0;
@@ -1269,11 +1259,7 @@ public final class StrangersWind {
         int most = 0;
         final int[] with = new int[STRANGERS];
 
-        Beard(Town town) {
-            this.town = town;
-        }
-
-        void search(int strikes) {
+        void search(Town town, int strikes) {
             sets = 0;
             first = NONE;
             inAll = town.notIn();
