@@ -274,6 +274,8 @@ public final class EdgeTests {
                 write(Integer.parseInt(m.group(1)), m.group(2));
             } else if ((m = form("fault \"(.*)\" = (\\w+)", line)) != null) {
                 expectFault(m.group(1), m.group(2));
+            } else if ((m = form("bytes (\\d+) of \"(.*)\": (\\w+), but (.*)", line)) != null) {
+                expectFaults(Integer.parseInt(m.group(1)), m.group(2), m.group(3), m.group(4));
             } else if ((m = form("row (\\d):(.*)", line)) != null) {
                 fill(Integer.parseInt(m.group(1)), Call.numbers(m.group(2)));
             } else if ((m = form("holds (\\d):(.*)", line)) != null) {
@@ -406,6 +408,23 @@ public final class EdgeTests {
                 succeed(new Call("town", 2));
             } else {
                 expectAnswer(new Call("town", 2), "STATE");
+            }
+        }
+
+        /** All bytes come to one place of a TEXT: the FAULT is the same, but for those that are told. */
+        private static void expectFaults(int place, String text, String fault, String told) {
+            String[] faults = new String[256];
+            Arrays.fill(faults, fault);
+            Matcher but = Pattern.compile("\"([^\"]*)\" (\\w+)").matcher(told);
+            while (but.find()) {
+                but.group(1).chars().forEach(c -> faults[c] = but.group(2));
+            }
+            for (int b = 0; b < faults.length; b++) {
+                Session other = new Session();
+                other.write(0, text);
+                other.succeed(new Call("put", 0, place, b));
+                due("FAULT of '" + text + "' with " + b + " at " + place, other.subject.make("fault", 0),
+                    answerOf(faults[b]));
             }
         }
 
