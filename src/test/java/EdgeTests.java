@@ -22,6 +22,7 @@ import java.util.stream.Stream;
  */
 public final class EdgeTests {
     private static final Path EDGES = Path.of("src/test/edges"), DOCUMENT = Path.of("../shared/DOC.md");
+    private static final Path README = Path.of("README.md");
     private static int wrong = 0;
     private static int asked = 0;
     private static String standing = "";
@@ -30,9 +31,10 @@ public final class EdgeTests {
         Quotes quotes = new Quotes(Files.readString(DOCUMENT));
         try (Stream<Path> files = Files.list(EDGES)) {
             for (Path file : files.sorted().collect(Collectors.toList())) {
-                follow(file, quotes);
+                follow(file, Files.readAllLines(file), quotes);
             }
         }
+        follow(README, shown(Files.readString(README)), quotes);
         standing = DOCUMENT.toString();
         quotes.reportUnquoted();
         System.out.println(wrong == 0 ? asked + " answers to " + quotes.quoted + " sentences are as due"
@@ -42,10 +44,23 @@ public final class EdgeTests {
         }
     }
 
-    private static void follow(Path file, Quotes quotes) throws IOException {
+    /** The lines of README.md, those emptied that are no edges that it shows. */
+    private static List<String> shown(String readme) {
+        List<String> lines = new ArrayList<>();
+        boolean within = false;
+        for (String line : readme.split("\n")) {
+            within = within ? !line.equals("```") : line.equals("```text");
+            lines.add(within && !line.equals("```text") ? line : "");
+        }
+        if (lines.stream().allMatch(String::isEmpty)) {
+            complain("README.md shows no edges");
+        }
+        return lines;
+    }
+
+    private static void follow(Path file, List<String> lines, Quotes quotes) {
         String section = "";
         Session session = new Session();
-        List<String> lines = Files.readAllLines(file);
         for (int n = 0; n < lines.size(); n++) {
             String line = lines.get(n).trim();
             standing = file + ":" + (n + 1);
